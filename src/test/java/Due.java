@@ -1,5 +1,7 @@
 /** Compares answers with what is due, and ends a test with exit code 1 if one was wrong. */
 final class Due {
+    private static final int MOST_PRINTED = 40;
+
     private final String about;
     private int asked;
     private int wrong;
@@ -12,7 +14,9 @@ final class Due {
         asked++;
         if (got != want) {
             wrong++;
-            System.out.println(about + ": " + call + " answered " + got + ", due is " + want);
+            if (wrong <= MOST_PRINTED) {
+                System.out.println(about + ": " + call + " answered " + got + ", due is " + want);
+            }
         }
     }
 

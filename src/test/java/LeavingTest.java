@@ -7,6 +7,7 @@ public final class LeavingTest {
         whatCleansSee(due);
         cleansThatThrow(due);
         guardsOnTheWay(due);
+        ownThrowsOfCleans(due);
         cleansOfCleans(due);
         due.end();
     }
@@ -173,6 +174,23 @@ public final class LeavingTest {
         x.guard(2, 0, 1, 9, 1);
         due.is("a throw within a CLEAN", x.run(0, 0, 9), 0);
         due.latest("a throw within a CLEAN", x, 8, 0, 5, 0, 3, 2, 2, 0, 2);
+    }
+
+    private static void ownThrowsOfCleans(Due due) {
+        StepBudgets x = new StepBudgets();
+        Acts.of(x, 0).raise(8);
+        x.clean(0, 0, 1, 1);
+        Acts.of(x, 1).raise(9).set(1, 5).give(1);
+        x.guard(1, 0, 1, 0, 1);
+        due.is("a THROW passes a CLEAN", x.run(0, 0, 9), 2);
+        due.latest("a THROW passes a CLEAN", x, 0, 8, 3, 0, 2, 1, 1, 0, 2);
+        x = new StepBudgets();
+        Acts.of(x, 0).call(1, 1, 0, 0).give(1);
+        x.clean(0, 0, 1, 2);
+        Acts.of(x, 1).set(1, 3).give(1);
+        Acts.of(x, 2).set(1, 5).give(1);
+        due.is("what a CALL gives passes a CLEAN", x.run(0, 0, 9), 0);
+        due.is("what a CALL gives passes a CLEAN", x.latest(0), 3);
     }
 
     private static void cleansOfCleans(Due due) {

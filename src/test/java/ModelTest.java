@@ -7,7 +7,7 @@ public final class ModelTest {
     private static final int[] ENDS_B = {0, 6, 6, 6, 6, 6, 0, 0, 3, 3, 3, 3, 3, 3, 1, 0};
     private static final int[] ENDS_C = {1, 6, 6, 6, 6, 6, 1, 1, 6, 6, 3, 1, 6, 3, 1, 1};
     private static final int[] ENDS_D = {1, 1, 1, 1, 1, 1, 1, 1, 1, 6, 6, 1, 1, 6, 1, 1};
-    private static final int[] VALUES = {0, 1, 2, 3, 5, 8, 9, 63, 64, 65, -1, -7, 200, Integer.MIN_VALUE, Integer.MAX_VALUE};
+    private static final int[] VALUES = {0, 1, 2, 3, 4, 5, 6, 8, 9, 64, 65, -1, -7, 200, Integer.MIN_VALUE, Integer.MAX_VALUE};
     private static final int[] BUDGETS = {0, 1, 2, 5, 8, 12, 13, 14, 25, 40, 100, 500};
 
     private final Random random;
@@ -40,6 +40,9 @@ public final class ModelTest {
         int methods = 1 + random.nextInt(4);
         for (int m = 0; m < methods; m++) {
             int count = 1 + random.nextInt(14);
+            if (random.nextBoolean()) {
+                writeRows(m);
+            }
             for (int i = 0; i < count; i++) {
                 writeAct(m, methods, count);
             }
@@ -61,6 +64,14 @@ public final class ModelTest {
         }
     }
 
+    /** Two rows to begin with, often of one LANE, so that not every use of a ROW throws. */
+    private void writeRows(int m) {
+        int lane = random.nextInt(3);
+        addAct(m, 0, 1, 1 + random.nextInt(9), 0, 0);
+        addAct(m, 8, random.nextInt(2), lane, 1, 0);
+        addAct(m, 8, 1 + random.nextInt(2), random.nextInt(3) > 0 ? lane : random.nextInt(3), 1, 0);
+    }
+
     private void writeAct(int m, int methods, int count) {
         int kind = random.nextInt(3) == 0 ? 0 : random.nextInt(16);
         int a = random.nextInt(ENDS_A[kind]);
@@ -71,6 +82,10 @@ public final class ModelTest {
             : random.nextInt(ENDS_B[kind]);
         int c = random.nextInt(ENDS_C[kind]);
         int d = random.nextInt(ENDS_D[kind]);
+        addAct(m, kind, a, b, c, d);
+    }
+
+    private void addAct(int m, int kind, int a, int b, int c, int d) {
         x.act(m, kind, a, b, c, d);
         model.acts.get(m).add(new int[] {kind, a, b, c, d});
     }

@@ -46,6 +46,37 @@ public final class StepsTest {
         Acts.of(y, 0).set(1, 64).make(0, 1, 1).make(1, 0, 1).make(2, 2, 1).go(1);
         due.is("many rows", y.run(0, 0, 500), 1);
         due.is("many rows: STEPS", y.latest(2), 1 + 17 * (3 * 9 + 1) + 2 * 9);
+        manyRowsInManyRuns(due);
+    }
+
+    /** As many rows as a BUDGET and a RESERVE allow, in one run behind the other: the last is as good as the first. */
+    private static void manyRowsInManyRuns(Due due) {
+        StepBudgets x = new StepBudgets();
+        for (int m = 0; m < 2; m++) {
+            Acts acts = Acts.of(x, m).set(2, -1).reckon(1, 3, 0, 2);
+            for (int i = 0; i < 40; i++) {
+                acts.make(0, i % 3, 0);
+            }
+            acts.size(1, 0).put(0, 0, 3, 1).get(1, 0, 0, 3).go(2);
+        }
+        x.clean(0, 2, 48, 1);
+        x.reserve(100);
+        for (int again = 0; again < 30; again++) {
+            for (int size : new int[] {1, 7, 15, 63, 64}) {
+                int cost = 1 + size / 8;
+                due.is("rows of " + size, x.run(0, size, 500), 1);
+                due.latest("rows of " + size, x, 0, 0, stepsOf(500, cost), stepsOf(100, cost), 2, 1, 0, 1, 2);
+            }
+        }
+    }
+
+    /** The STEPS counted for a FRAME and 40 rows and a GO, over and over, up to the end. */
+    private static int stepsOf(int end, int cost) {
+        int steps = 1;
+        for (int i = 0; steps + (i % 41 == 40 ? 1 : cost) <= end; i++) {
+            steps += i % 41 == 40 ? 1 : cost;
+        }
+        return steps;
     }
 
     private static void guardsAndFrames(Due due) {
