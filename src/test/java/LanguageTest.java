@@ -28,6 +28,7 @@ public final class LanguageTest {
         due.is("rule 9: while and do", count(code, "\\b(while|do)\\b"), 0);
         due.is("rule 11: more than seven parameters", count(code, "\\((int \\w+, ){7}"), 0);
         due.is("rule 11: methods of over sixty lines", longMethods(code), 0);
+        due.is("rule 11: classes over twelve", Math.max(0, count(code, "\\b(class|record|enum|interface) \\w+") - 12), 0);
         due.end();
     }
 

@@ -6,6 +6,9 @@ public final class LeavingTest {
         leftOut(due);
         whatCleansSee(due);
         cleansThatThrow(due);
+        noMoreBehindOneThatThrows(due);
+        thrownIntoCaller(due);
+        cleanTooDeep(due);
         guardsOnTheWay(due);
         ownThrowsOfCleans(due);
         cleansOfCleans(due);
@@ -135,6 +138,23 @@ public final class LeavingTest {
             due.cleaned(call, x, 0, 2, 0, 2);
             due.cleaned(call, x, 1, 3, 0, 2);
         }
+    }
+
+    private static void noMoreBehindOneThatThrows(Due due) {
+        // ACT 0 is LEFT for ACT 1, which CLEANS 0 and 3 hold, too: they are not run, also not on the way out.
+        StepBudgets x = new StepBudgets();
+        Acts.of(x, 0).set(1, 6).give(1);
+        x.clean(0, 0, 2, 5);
+        x.clean(0, 0, 1, 4);
+        x.clean(0, 0, 1, 3);
+        x.clean(0, 0, 2, 2);
+        Acts.of(x, 3).raise(9);
+        due.is("no more behind one that throws", x.run(0, 0, 9), 2);
+        due.latest("no more behind one that throws", x, 0, 9, 2, 0, 2, 1, 0, 0, 2);
+        due.cleaned("no more behind one that throws", x, 0, 3, 0, 2);
+    }
+
+    private static void thrownIntoCaller(Due due) {
         // The caller's GUARD is asked for it, and its NUMBER x stays.
         StepBudgets x = new StepBudgets();
         Acts.of(x, 0).set(1, 4).call(1, 1, 0, 0).reckon(3, 1, 1, 5).give(1);
@@ -145,8 +165,11 @@ public final class LeavingTest {
         Acts.of(x, 2).raise(9);
         due.is("the caller's GUARD", x.run(0, 0, 9), 0);
         due.latest("the caller's GUARD", x, 36, 0, 4, 0, 3, 1, 1, 0, 3);
-        // A CLEAN one too deep: ROOM in place of KIND 8.
-        x = new StepBudgets();
+    }
+
+    private static void cleanTooDeep(Due due) {
+        // ROOM in place of KIND 8.
+        StepBudgets x = new StepBudgets();
         Acts.of(x, 0).goIf(0, 2).raise(8).set(1, -1).reckon(1, 0, 0, 1).call(2, 0, 0, 0);
         x.clean(0, 1, 2, 1);
         due.is("a CLEAN in FRAME 12", x.run(0, 10, 500), 2);

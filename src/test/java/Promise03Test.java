@@ -20,6 +20,7 @@ public final class Promise03Test {
         holdsFromUpToAheadOf(due);
         hasItsKindOrAny(due);
         firstAsTold(due);
+        goesOnThere(due);
         actThatIsNotThere(due);
         numberFiveIsTheKind(due);
         holdsItsOwnAct(due);
@@ -167,6 +168,23 @@ public final class Promise03Test {
         x.guard(0, 2, 3, 8, 4);
         x.run(0, 0, 9);
         due.is("the sixth", x.latest(0), 7);
+    }
+
+    private static void goesOnThere(Due due) {
+        // ACT 3 throws; from the GUARD's ACT on all ACTS up to ACT 7 are done, each with a digit of its own.
+        int[][] rows = {{1, 0}, {4, 4567}, {5, 567}, {6, 67}, {7, 7}};
+        for (int[] r : rows) {
+            StepBudgets x = new StepBudgets();
+            Acts acts = Acts.of(x, 0).set(2, 10).go(3).give(3).raise(8);
+            for (int digit = 4; digit <= 7; digit++) {
+                acts.set(1, digit).reckon(3, 3, 3, 2).reckon(1, 3, 3, 1);
+            }
+            acts.give(3);
+            x.guard(0, 3, 4, 0, r[0] < 4 ? r[0] : 3 * r[0] - 8);
+            String call = "a GUARD that goes on at digit " + r[0];
+            due.is(call, x.run(0, 0, 9), r[0] < 4 ? 1 : 0);
+            due.is(call + ": it gave", x.latest(0), r[1]);
+        }
     }
 
     private static void actThatIsNotThere(Due due) {

@@ -8,6 +8,8 @@ public final class StoppedTest {
         stoppedInLeaving(due);
         overruns(due);
         deepFrames(due);
+        whatTheyAreHanded(due);
+        endPassesGuards(due);
         due.end();
     }
 
@@ -142,5 +144,35 @@ public final class StoppedTest {
         for (int k = 0; k < 11; k++) {
             due.cleaned("deep FRAMES", x, k, 1, 0, 12 - k);
         }
+    }
+
+    private static void whatTheyAreHanded(Due due) {
+        // METHOD 1 PUTs NUMBER 0 into ROW 0, METHOD 2 GETs it out and goes round as often.
+        StepBudgets x = new StepBudgets();
+        Acts.of(x, 0).set(1, 1).make(0, 1, 1).reckon(1, 0, 0, 1).go(3);
+        x.clean(0, 3, 4, 2);
+        x.clean(0, 3, 4, 1);
+        Acts.of(x, 1).put(0, 1, 1, 0);
+        Acts.of(x, 2).set(0, 0).get(2, 0, 1, 1).set(1, -1).reckon(1, 2, 2, 1).goIf(2, 3);
+        due.is("NUMBER 0 and ROW 0", x.run(0, 5, 20), 1);
+        // Two FRAMES, and 6 times round.
+        due.latest("NUMBER 0 and ROW 0", x, 0, 0, 20, 2 + 5, 3, 2, 0, 0, 2);
+    }
+
+    private static void endPassesGuards(Due due) {
+        // METHOD 1 cleans up and CALLs METHOD 2, which loops: no GUARD and no CLEAN behind the RESERVE.
+        StepBudgets x = new StepBudgets();
+        Acts.of(x, 0).go(0);
+        x.guard(0, 0, 1, 0, 1);
+        x.clean(0, 0, 1, 3);
+        x.clean(0, 0, 1, 1);
+        Acts.of(x, 1).call(1, 2, 0, 0);
+        x.guard(1, 0, 1, 0, 1);
+        x.clean(1, 0, 1, 3);
+        Acts.of(x, 2).go(0);
+        x.guard(2, 0, 1, 0, 1);
+        x.clean(2, 0, 1, 3);
+        due.is("the end of the RESERVE", x.run(0, 0, 4), 1);
+        due.latest("the end of the RESERVE", x, 0, 0, 4, 10, 3, 1, 0, 1, 3);
     }
 }
