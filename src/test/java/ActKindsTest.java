@@ -14,6 +14,7 @@ public final class ActKindsTest {
         rowMadeAnewElsewhere(due);
         rowsOfCalleeAreNone(due);
         gives(due);
+        numbersThatAreNotNamed(due);
         due.end();
     }
 
@@ -176,6 +177,26 @@ public final class ActKindsTest {
             Acts.of(x, 0).set(number, 70 + number).give(number).raise(8);
             due.is("GIVE", x.run(0, 3, 1), 0);
             due.is("GIVE: it gave", x.latest(0), 70 + number);
+        }
+    }
+
+    /** What a kind does not name is not looked at in a run, either: here it is no NUMBER, ROW, LANE or METHOD. */
+    private static void numbersThatAreNotNamed(Due due) {
+        for (int n : new int[] {-1, 6, 49, Integer.MIN_VALUE, Integer.MAX_VALUE}) {
+            StepBudgets x = new StepBudgets();
+            int[][] acts = {
+                // NUMBERS 1, 2 are 3, 3 + 3 = 6, 6 - 3 = 3, 3 * 3 = 9, 9 / 3 = 3, 3 % 3 = 0.
+                {0, 1, 3, n, n}, {1, 2, 1, 1, n}, {2, 2, 2, 1, n}, {3, 2, 2, 1, n}, {4, 2, 2, 1, n}, {5, 2, 2, 1, n},
+                {6, n, 7, n, n}, {7, 1, 8, n, n}, {8, 0, 0, 1, n}, {11, 3, 0, n, n}, {12, 0, 0, 1, n},
+                {15, n, 9, n, n}, {14, 3, n, n, n},
+            };
+            for (int i = 0; i < acts.length; i++) {
+                int[] act = acts[i];
+                due.is("an ACT with " + n, x.act(0, act[0], act[1], act[2], act[3], act[4]), i);
+            }
+            x.guard(0, 11, 12, 9, 12);
+            due.is("ACTS with " + n, x.run(0, 0, 9), 0);
+            due.latest("ACTS with " + n, x, 3, 0, 3, 0, 1, 0, 1, 0, 1);
         }
     }
 }

@@ -8,10 +8,12 @@ public final class ModelTest {
     private static final int FIRST_COMPARED = 20;
     private static final int LAST_COMPARED = 10;
 
-    private static final int[] ENDS_A = {6, 6, 6, 6, 6, 6, 1, 6, 3, 3, 6, 6, 3, 6, 6, 1};
-    private static final int[] ENDS_B = {0, 6, 6, 6, 6, 6, 0, 0, 3, 3, 3, 3, 3, 3, 1, 0};
-    private static final int[] ENDS_C = {1, 6, 6, 6, 6, 6, 1, 1, 6, 6, 3, 1, 6, 3, 1, 1};
-    private static final int[] ENDS_D = {1, 1, 1, 1, 1, 1, 1, 1, 1, 6, 6, 1, 1, 6, 1, 1};
+    // ANY where a kind does not look at a number: what is drawn there must change nothing.
+    private static final int ANY = 0;
+    private static final int[] ENDS_A = {6, 6, 6, 6, 6, 6, ANY, 6, 3, 3, 6, 6, 3, 6, 6, ANY};
+    private static final int[] ENDS_B = {ANY, 6, 6, 6, 6, 6, ANY, ANY, 3, 3, 3, 3, 3, ANY, ANY, ANY};
+    private static final int[] ENDS_C = {ANY, 6, 6, 6, 6, 6, ANY, ANY, 6, 6, 3, ANY, 6, 3, ANY, ANY};
+    private static final int[] ENDS_D = {ANY, ANY, ANY, ANY, ANY, ANY, ANY, ANY, ANY, 6, 6, ANY, ANY, 6, ANY, ANY};
     private static final int[] VALUES = {0, 1, 2, 3, 4, 5, 6, 8, 9, 64, 65, -1, -7, 200, Integer.MIN_VALUE, Integer.MAX_VALUE};
     private static final int[] BUDGETS = {0, 1, 2, 5, 8, 12, 13, 14, 25, 40, 100, 500};
 
@@ -79,15 +81,15 @@ public final class ModelTest {
 
     private void writeAct(int m, int methods, int count) {
         int kind = random.nextInt(3) == 0 ? 0 : random.nextInt(16);
-        int a = random.nextInt(ENDS_A[kind]);
-        int b = kind == 0 ? VALUES[random.nextInt(VALUES.length)]
-            : kind == 15 ? 8 + random.nextInt(2)
+        int b = kind == 15 ? 8 + random.nextInt(2)
             : kind == 13 ? random.nextInt(methods)
             : kind == 6 || kind == 7 ? random.nextInt(count + 2)
-            : random.nextInt(ENDS_B[kind]);
-        int c = random.nextInt(ENDS_C[kind]);
-        int d = random.nextInt(ENDS_D[kind]);
-        addAct(m, kind, a, b, c, d);
+            : drawn(ENDS_B[kind]);
+        addAct(m, kind, drawn(ENDS_A[kind]), b, drawn(ENDS_C[kind]), drawn(ENDS_D[kind]));
+    }
+
+    private int drawn(int end) {
+        return end == ANY ? VALUES[random.nextInt(VALUES.length)] : random.nextInt(end);
     }
 
     private void addAct(int m, int kind, int a, int b, int c, int d) {
